@@ -1,0 +1,50 @@
+/** Counts and prints the answers that are not the ones that are due. */
+final class Check {
+    interface Call {
+        void run();
+    }
+
+    interface IntCall {
+        int run();
+    }
+
+    private static int wrong = 0;
+    private static int all = 0;
+
+    private Check() {
+    }
+
+    static void same(String what, long got, long due) {
+        same(what, String.valueOf(got), String.valueOf(due));
+    }
+
+    static void same(String what, String got, String due) {
+        all++;
+        if (!got.equals(due)) {
+            wrong++;
+            System.out.println(what + ": answered " + got + ", due is " + due);
+        }
+    }
+
+    static void refused(String what, Class<? extends RuntimeException> due, Call call) {
+        same(what, outcome(() -> {
+            call.run();
+            return 0;
+        }), due.getSimpleName());
+    }
+
+    static String outcome(IntCall call) {
+        try {
+            return String.valueOf(call.run());
+        } catch (RuntimeException e) {
+            return e.getClass().getSimpleName();
+        }
+    }
+
+    static void end() {
+        System.out.println(all + " answers looked at, " + wrong + " wrong");
+        if (wrong != 0 || all == 0) {
+            System.exit(1);
+        }
+    }
+}
