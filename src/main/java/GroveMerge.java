@@ -203,6 +203,11 @@ public final class GroveMerge {
         }
     }
 
+    // Sets of nodes and of commits are ints with a bit for each member.
+    private static boolean isIn(int set, int member) {
+        return (set >> member & 1) != 0;
+    }
+
     /**
      * The nodes stand in one row, in the document order: so all of a node's part stands together,
      * the node first, and the row with the parents tells the order of all children.
@@ -448,11 +453,7 @@ public final class GroveMerge {
         }
     }
 
-    private static boolean isIn(int set, int member) {
-        return (set >> member & 1) != 0;
-    }
-
-    /** Sets of nodes are ints with a bit for each node. */
+    /** Follows a path from the root, a set of nodes at a time. */
     private static final class PathWalk {
         private static final int STEPS = 6;
         private static final int STEP_BITS = 5;

@@ -284,6 +284,12 @@ public final class PromiseTest {
         g.insert(1, 1, 1);
         Check.refused("9 another node", STATE, () -> g.merge(0));
         g.checkout(1);
+        g.delete(2);
+        Check.refused("9 the last one less", STATE, () -> g.merge(0));
+        g.checkout(1);
+        g.insert(2, 0, 0);
+        Check.refused("9 one more at the end", STATE, () -> g.merge(0));
+        g.checkout(1);
         g.move(4, 3, 0);
         Check.refused("9 parent in the same order", STATE, () -> g.merge(0));
         g.move(4, 1, 1);
@@ -420,6 +426,7 @@ public final class PromiseTest {
         Check.same("14 root has none beside it", g.count(path(step(3, 7))), 0);
         Check.same("14 behind", g.count(path(step(1, 7), step(3, 7))), 1);
         Check.same("14 behind, with the label", g.count(path(step(1, 7), step(3, 1))), 0);
+        Check.same("14 behind in several rows", g.count(path(step(2, 7), step(3, 7))), 2);
         Check.same("14 each once", g.count(path(step(2, 7), step(2, 7))), 2);
         g.insert(0, 2, 2);
         g.insert(0, 3, 2);
@@ -475,6 +482,9 @@ public final class PromiseTest {
         g.insert(1, 1, 3);
         g.insert(2, 0, 2);
         Check.same("16 fewer children", g.alike(2), 2);
+        g.move(2, 0, 0);
+        Check.same("16 more children", g.alike(1), 1);
+        g.move(2, 0, 1);
         g.insert(2, 1, 3);
         Check.same("16 parts", g.alike(2), 1);
         Check.same("16 leaves", g.alike(5), 3);
