@@ -8,10 +8,20 @@ final class Check {
         int run();
     }
 
+    private static String heading = "";
     private static int wrong = 0;
     private static int all = 0;
 
     private Check() {
+    }
+
+    /** What all answers from here on are about. */
+    static void begin(String what) {
+        heading = what + "\n    ";
+    }
+
+    static int lookedAt() {
+        return all;
     }
 
     static void same(String what, long got, long due) {
@@ -22,15 +32,12 @@ final class Check {
         all++;
         if (!got.equals(due)) {
             wrong++;
-            System.out.println(what + ": answered " + got + ", due is " + due);
+            System.out.println(heading + what + ": answered " + got + ", due is " + due);
         }
     }
 
-    static void refused(String what, Class<? extends RuntimeException> due, Call call) {
-        same(what, outcome(() -> {
-            call.run();
-            return 0;
-        }), due.getSimpleName());
+    static void holds(String what, boolean got) {
+        same(what, String.valueOf(got), "true");
     }
 
     static String outcome(IntCall call) {
@@ -39,6 +46,13 @@ final class Check {
         } catch (RuntimeException e) {
             return e.getClass().getSimpleName();
         }
+    }
+
+    static String outcomeOf(Call call) {
+        return outcome(() -> {
+            call.run();
+            return 0;
+        });
     }
 
     static void end() {

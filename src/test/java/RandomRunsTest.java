@@ -1,8 +1,10 @@
 /** Long runs of calls, drawn by a fixed rule, each answer compared with that of the model. */
 public final class RandomRunsTest {
-    private static final int RUNS = 1200;
-    private static final int CALLS = 250;
+    private static final int RUNS = 3000;
+    // What later calls answer is free.
+    private static final int MOST_CALLS = 512;
 
+    private static final int ALL_BELOW = 2 | 6 << 2;
     private static final int INSERT = 0;
     private static final int COMMIT = 4;
     private static final int ASK = 7;
@@ -16,6 +18,7 @@ public final class RandomRunsTest {
     private final GroveMerge g = new GroveMerge();
     private final Model m = new Model();
     private final int run;
+    private int calls = 0;
 
     private RandomRunsTest(int run) {
         this.run = run;
@@ -67,7 +70,7 @@ public final class RandomRunsTest {
 
     private int anyNode() {
         int k = draw(m.nodes(false));
-        return draw(15) == 0 ? about(m.nodes(true)) : k == 0 ? 0 : m.find(26, k - 1);
+        return draw(15) == 0 ? about(m.nodes(true)) : k == 0 ? 0 : m.find(ALL_BELOW, k - 1);
     }
 
     private int commit() {
@@ -99,7 +102,7 @@ public final class RandomRunsTest {
     }
 
     private void free() {
-        for (int call = 0; call < CALLS; call++) {
+        while (calls < MOST_CALLS) {
             one(drawWhat(WEIGHTS[run / 2 % WEIGHTS.length]));
             lookAround();
         }
@@ -111,7 +114,7 @@ public final class RandomRunsTest {
             one(INSERT);
         }
         one(COMMIT);
-        while (m.state(0) < 12) {
+        while (m.state(0) < 12 && calls < MOST_CALLS) {
             int from = draw(m.state(0));
             checkout(draw(3) == 0 ? from : Math.min(from, 1));
             for (int i = draw(6); i >= 0; i--) {
@@ -148,31 +151,21 @@ public final class RandomRunsTest {
         return what;
     }
 
+    /** The labels, parents and numbers in the order tell all of a tree. */
     private void lookAround() {
-        if (draw(6) == 0) {
-            Check.same("run " + run + ", nodes", g.nodes(false), m.nodes(false));
-            Check.same("run " + run + ", tree", wholeTree(g::about, g::child), wholeTree(m::about, m::child));
+        if (draw(15) == 0) {
+            both("nodes", () -> g.nodes(false), () -> m.nodes(false));
+            lookAt(0);
+            for (int k = 0; k < m.count(ALL_BELOW); k++) {
+                lookAt(m.find(ALL_BELOW, k));
+            }
         }
     }
 
-    interface Ask {
-        int of(int a, int b);
-    }
-
-    private static String wholeTree(Ask about, Ask child) {
-        StringBuilder text = new StringBuilder();
-        for (int node = 0; node < 24; node++) {
-            int at = node;
-            for (int part = 0; part < 4; part++) {
-                int which = part;
-                text.append(Check.outcome(() -> about.of(at, which))).append(' ');
-            }
-            for (int i = 0; i < 3; i++) {
-                int which = i;
-                text.append(Check.outcome(() -> child.of(at, which))).append(' ');
-            }
+    private void lookAt(int node) {
+        for (int part : new int[] {0, 1, 3}) {
+            both("about", () -> g.about(node, part), () -> m.about(node, part));
         }
-        return text.toString();
     }
 
     private void one(int what) {
@@ -220,10 +213,14 @@ public final class RandomRunsTest {
             checkout(commit());
         }
         both("merge", () -> g.merge(commit), () -> m.merge(commit));
-        for (int k = -1; k < 25; k++) {
+        boolean named = true;
+        for (int k = 0; k < 25 && named; k++) {
             int at = k;
             both("conflict", () -> g.conflict(at), () -> m.conflict(at));
+            named = !Check.outcome(() -> m.conflict(at)).endsWith("Exception");
         }
+        int any = about(25);
+        both("conflict", () -> g.conflict(any), () -> m.conflict(any));
     }
 
     private void ask(int a, int b) {
@@ -253,6 +250,9 @@ public final class RandomRunsTest {
     }
 
     private void both(String what, Check.IntCall ours, Check.IntCall due) {
-        Check.same("run " + run + ", " + what, Check.outcome(ours), Check.outcome(due));
+        if (calls < MOST_CALLS) {
+            calls++;
+            Check.same("run " + run + ", call " + calls + ", " + what, Check.outcome(ours), Check.outcome(due));
+        }
     }
 }
