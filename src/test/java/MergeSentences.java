@@ -38,6 +38,7 @@ final class MergeSentences {
         all.say("Of these kinds only the least one counts for a node.", MergeSentences::onlyTheLeastKind);
         all.say("If there are no conflicts so far", MergeSentences::kind4OnlyAlone);
         all.say(": it is a conflict of kind 4 when the parent of a node that stays does not stay", MergeSentences::parentGone);
+        all.say("a conflict of kind 4 when the parent of a node that stays does not stay", MergeSentences::parentGoneOfFirstAndLast);
         all.say("if there are none of these either", MergeSentences::kind5OnlyAlone);
         all.say(": of kind 5 when one does not come to the root from a node that stays by going to parents.", MergeSentences::cutOff);
         all.say("Conflicts stand by the numbers of their nodes.", MergeSentences::conflictsByNumber);
@@ -185,12 +186,9 @@ final class MergeSentences {
     private static void newInOne() {
         clean("in each line one", g -> g.insert(3, 0, 2), g -> g.insert(6, 0, 3), "0:0(1:1(4:1 5:1) 2:1(6:1(8:3)) 3:1(7:2))");
         cleanBothWays("a part", MergeSentences::none, g -> g.insert(g.insert(3, 0, 4), 0, 5), "0:0(1:1(4:1 5:1) 2:1(6:1) 3:1(7:4(8:5)))");
-        GroveMerge theirs = crossed(g -> g.delete(2), g -> g.relabel(2, 5));
-        Check.same("deleted in O, but not in B", theirs.merge(4), 0);
-        Check.same("stays all the same", theirs.about(2, 0), 5);
-        GroveMerge ours = crossed(g -> g.relabel(2, 5), g -> g.delete(2));
-        Check.same("deleted in T, but not in B", ours.merge(4), 0);
-        Check.same("stays all the same", ours.about(2, 0), 5);
+        stayThoughDeleted("another label", g -> g.relabel(2, 5), "0:0(1:1 2:5 3:2)", "0:0(2:5 1:1 3:2)");
+        stayThoughDeleted("another parent", g -> g.move(2, 1, 0), "0:0(1:1(2:2) 3:2)", "0:0(1:1(2:2) 3:2)");
+        stayThoughDeleted("no change", MergeSentences::leave, "0:0(1:1 2:2 3:2)", "0:0(2:2 1:1 3:2)");
         GroveMerge most = new GroveMerge();
         for (int node = 1; node < 12; node++) {
             most.insert(node - 1, 0, 1);
@@ -206,6 +204,16 @@ final class MergeSentences {
         Check.same("as many as there can be", most.nodes(false), 24);
         Check.same("the last one of theirs", most.about(11, 3), 11);
         Check.same("the last one of ours", most.about(23, 3), 23);
+    }
+
+    /** A node that is not in the base, changed in one of two crossed lines and deleted in the other. */
+    private static void stayThoughDeleted(String what, Consumer<GroveMerge> change, String dueInOurs, String dueInTheirs) {
+        GroveMerge ours = crossed(change, g -> g.delete(2));
+        Check.same(what + " in O, deleted in T, not in B", ours.merge(4), 0);
+        Trees.same(what + " in O, deleted in T, not in B", ours, dueInOurs);
+        GroveMerge theirs = crossed(g -> g.delete(2), change);
+        Check.same(what + " in T, deleted in O, not in B", theirs.merge(4), 0);
+        Trees.same(what + " in T, deleted in O, not in B", theirs, dueInTheirs);
     }
 
     private static void deletedInOne() {
@@ -359,6 +367,19 @@ final class MergeSentences {
             g.insert(1, 0, 1);
             g.delete(2);
         }, 4, 7, 4, 8);
+    }
+
+    private static void parentGoneOfFirstAndLast() {
+        GroveMerge g = Trees.row();
+        g.commit();
+        g.delete(5);
+        g.commit();
+        g.checkout(1);
+        g.move(1, 5, 0);
+        g.move(23, 5, 0);
+        g.commit();
+        Check.same("conflicts", g.merge(2), 2);
+        named("the first and the last that there can be", g, 4, 1, 4, 23);
     }
 
     private static void kind5OnlyAlone() {

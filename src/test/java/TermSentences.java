@@ -301,7 +301,9 @@ final class TermSentences {
     private static void alikeOneByOne() {
         Check.same("in another order", Trees.grown("0(1(2 3) 1(3 2))").alike(4), 4);
         Check.same("in the same order", Trees.grown("0(1(2 3) 1(2 3))").alike(4), 1);
-        Check.same("one of them not", Trees.grown("0(1(2 3) 1(2 4))").alike(4), 4);
+        Check.same("the first not", Trees.grown("0(1(2 3) 1(4 3))").alike(4), 4);
+        Check.same("the last not", Trees.grown("0(1(2 3) 1(2 4))").alike(4), 4);
+        Check.same("the only one not", Trees.grown("0(1(2) 1(3))").alike(3), 3);
         Check.same("not far below", Trees.grown("0(1(2(3(4))) 1(2(3(5))))").alike(5), 5);
         Check.same("far below, too", Trees.grown("0(1(2(3(4))) 1(2(3(4))))").alike(5), 1);
         Check.same("other children of children", Trees.grown("0(1(2(3) 2) 1(2 2(3)))").alike(5), 5);
