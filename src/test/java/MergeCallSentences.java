@@ -72,14 +72,19 @@ final class MergeCallSentences {
         GroveMerge g = Situation.inConflict();
         Check.same("two, with the same head again", g.merge(2), 2);
         Check.same("none", g.merge(1), 0);
-        GroveMerge most = Trees.row();
-        most.commit();
-        relabelAll(most, 1);
-        most.commit();
-        most.checkout(1);
-        relabelAll(most, 2);
-        most.commit();
-        Check.same("the most", most.merge(2), 24);
+        Check.same("the most", withTwoLabelsEach().merge(2), 24);
+    }
+
+    /** The head is 3; each of 24 nodes has another label in it than in 2. */
+    private static GroveMerge withTwoLabelsEach() {
+        GroveMerge g = Trees.row();
+        g.commit();
+        relabelAll(g, 1);
+        g.commit();
+        g.checkout(1);
+        relabelAll(g, 2);
+        g.commit();
+        return g;
     }
 
     private static void relabelAll(GroveMerge g, int label) {
@@ -231,13 +236,7 @@ final class MergeCallSentences {
     }
 
     private static void conflictNamesNodeAndKind() {
-        GroveMerge g = Trees.row();
-        g.commit();
-        relabelAll(g, 1);
-        g.commit();
-        g.checkout(1);
-        relabelAll(g, 2);
-        g.commit();
+        GroveMerge g = withTwoLabelsEach();
         g.merge(2);
         for (int k = 0; k < 24; k++) {
             Check.same("two labels of " + k, g.conflict(k), 64 + k);

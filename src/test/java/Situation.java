@@ -1,4 +1,3 @@
-import java.util.ArrayList;
 import java.util.List;
 import java.util.function.Supplier;
 
@@ -39,11 +38,7 @@ enum Situation {
     }
 
     List<Integer> numbersOfNoCommit() {
-        List<Integer> all = new ArrayList<>(Numbers.beyond(commits - 1));
-        for (int commit = commits; commit < 24; commit++) {
-            all.add(commit);
-        }
-        return all;
+        return Numbers.beyond(commits - 1);
     }
 
     static GroveMerge small() {
